@@ -322,17 +322,17 @@ public final class PrimeCoins {
     needWhat(what, 2);
     int goes = NONE;
     int comes = NONE;
-    long least = 0;
+    long nearest = 0;
     for (int c = 0; c < now.coins; c++) {
       for (int d = 0; d < now.coins; d++) {
         if (c == d || now.held(p, c) == 0 || now.held(q, d) == 0) {
           continue;
         }
         long differ = now.differBySwap(p, q, c, d);
-        if (goes == NONE || differ < least) {
+        if (goes == NONE || differ < nearest) {
           goes = c;
           comes = d;
-          least = differ;
+          nearest = differ;
         }
       }
     }
@@ -340,7 +340,7 @@ public final class PrimeCoins {
       return NONE;
     }
     if (what == 2) {
-      return least;
+      return nearest;
     }
     return now.primeOf(what == 0 ? goes : comes);
   }
@@ -524,7 +524,7 @@ public final class PrimeCoins {
     if (then > BILLION) {
       throw new IllegalStateException("above 1,000,000,000");
     }
-    now.debts.put(p, q, then);
+    now.debts.set(p, q, then);
     return then;
   }
 
@@ -548,7 +548,7 @@ public final class PrimeCoins {
     if (sort < 0 || sort > 3 || many < 0 || many > PLACES_MOST) {
       throw new IllegalArgumentException("no such sort, or not so many");
     }
-    trays[tray].lay(sort, many);
+    trays[tray].layRow(sort, many);
   }
 
   public long write(int tray, int place, long v)
@@ -733,7 +733,7 @@ public final class PrimeCoins {
       coins = 0;
       people = 0;
       changes = 0;
-      debts.empty();
+      debts.forgive();
       Arrays.fill(primes, 0);
       Arrays.fill(purses, 0);
       Arrays.fill(sides, 0);
@@ -745,7 +745,7 @@ public final class PrimeCoins {
       coins = other.coins;
       people = other.people;
       changes = other.changes;
-      debts.become(other.debts);
+      debts.takeOver(other.debts);
       System.arraycopy(other.primes, 0, primes, 0, primes.length);
       System.arraycopy(other.purses, 0, purses, 0, purses.length);
       System.arraycopy(other.sides, 0, sides, 0, sides.length);
@@ -794,16 +794,13 @@ public final class PrimeCoins {
 
     // -- PURSES
 
-    private static boolean isPlace(int p, int c) {
-      return p >= 0 && p < PEOPLE_MOST && c >= 0 && c < COINS_MOST;
-    }
-
     int held(int p, int c) {
-      return isPlace(p, c) ? purses[p * COINS_MOST + c] : 0;
+      boolean there = p >= 0 && p < PEOPLE_MOST && c >= 0 && c < COINS_MOST;
+      return there ? purses[p * COINS_MOST + c] : 0;
     }
 
     void come(int p, int c, int more) {
-      if (isPlace(p, c)) {
+      if (p >= 0 && p < PEOPLE_MOST && c >= 0 && c < COINS_MOST) {
         purses[p * COINS_MOST + c] += more;
       }
     }
@@ -1032,11 +1029,11 @@ public final class PrimeCoins {
       Arrays.fill(owes, 1);
     }
 
-    void empty() {
+    void forgive() {
       Arrays.fill(owes, 1);
     }
 
-    void become(Debts other) {
+    void takeOver(Debts other) {
       System.arraycopy(other.owes, 0, owes, 0, owes.length);
     }
 
@@ -1048,7 +1045,7 @@ public final class PrimeCoins {
       return isPair(p, q) ? owes[p * PEOPLE_MOST + q] : 1;
     }
 
-    void put(int p, int q, long n) {
+    void set(int p, int q, long n) {
       if (isPair(p, q)) {
         owes[p * PEOPLE_MOST + q] = n;
       }
@@ -1113,7 +1110,7 @@ public final class PrimeCoins {
 
     private void divide(int p, int q, long by) {
       if (by > 1) {
-        put(p, q, of(p, q) / by);
+        set(p, q, of(p, q) / by);
       }
     }
   }
@@ -1156,12 +1153,12 @@ public final class PrimeCoins {
       return i >= 0 && i < many ? values[i] : 0;
     }
 
-    void cut(int n) {
+    void cutAll(int n) {
       length = Math.max(0, Math.min(n, text.length));
       at = 0;
       many = 0;
       skipBlanks();
-      while (at < length && many < TAPE_MOST) {
+      for (int i = 0; i < TAPE_MOST && at < length; i++) {
         cutOne();
         skipBlanks();
       }
@@ -1196,7 +1193,7 @@ public final class PrimeCoins {
     }
 
     private void skipBlanks() {
-      while (at < length && (signAt(at) == 10 || signAt(at) == 32)) {
+      while (at < length && (signAt(at) == '\n' || signAt(at) == ' ')) {
         at++;
       }
     }
@@ -1256,8 +1253,8 @@ public final class PrimeCoins {
     int fault = 0;
     int place = NONE;
     private final Tokens tokens;
-    private int at = 0;
     private final Town town;
+    private int at = 0;
 
     Reader(int[] text, Town town) {
       tokens = new Tokens(text);
@@ -1265,7 +1262,7 @@ public final class PrimeCoins {
     }
 
     void read(int n) {
-      tokens.cut(n);
+      tokens.cutAll(n);
       at = 0;
       fault = 0;
       place = NONE;
@@ -1285,7 +1282,7 @@ public final class PrimeCoins {
     }
 
     private boolean stop(int told) {
-      fault = isNext(Tokens.BAD) ? NO_TOKEN : told;
+      fault = tokens.kindOf(at) == Tokens.BAD ? NO_TOKEN : told;
       place = tokens.startOf(at);
       return false;
     }
@@ -1349,7 +1346,7 @@ public final class PrimeCoins {
       }
       town.come(town.people, c, 1);
       at++;
-      return isNext(Tokens.TIMES) ? readTimes(c) : true;
+      return !isNext(Tokens.TIMES) || readTimes(c);
     }
 
     private boolean readTimes(int c) {
@@ -1643,7 +1640,7 @@ public final class PrimeCoins {
           }
           found++;
         }
-        more = step(town.coins, n);
+        more = nextRow(town.coins, n);
       }
       return k == NONE ? found : NONE;
     }
@@ -1656,7 +1653,7 @@ public final class PrimeCoins {
       return product;
     }
 
-    private boolean step(int kinds, int n) {
+    private boolean nextRow(int kinds, int n) {
       for (int i = Math.min(n, MOST) - 1; i >= 0; i--) {
         if (coins[i] + 1 < kinds) {
           raiseFrom(i, coins[i] + 1);
@@ -1678,7 +1675,7 @@ public final class PrimeCoins {
     int many = 0;
     private final long[] numbers = new long[PLACES_MOST];
 
-    void lay(int newSort, int newMany) {
+    void layRow(int newSort, int newMany) {
       sort = newSort;
       many = Math.max(0, Math.min(newMany, PLACES_MOST));
       Arrays.fill(numbers, 0);
@@ -1689,14 +1686,14 @@ public final class PrimeCoins {
     }
 
     long put(int place, long v) {
-      long there = cut(v);
+      long there = cutToSort(v);
       if (place >= 0 && place < many) {
         numbers[place] = there;
       }
       return there;
     }
 
-    private long cut(long v) {
+    private long cutToSort(long v) {
       switch (sort) {
         case 0:
           return (byte) v;
