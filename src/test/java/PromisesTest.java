@@ -151,6 +151,9 @@ public final class PromisesTest {
         Check.due("7 purse " + p + " " + what, x.purse(p, what), due[p][what]);
       }
     }
+    PrimeCoins low = Check.of("mint 2 3;purse 3 2;");
+    Check.due("7 the least is the first coin", low.purse(0, 3), 2);
+    Check.due("7 the greatest is the last", low.purse(0, 2), 3);
     Check.throwsDue("7 what", IAE, () -> x.purse(0, 4));
     Check.throwsDue("7 what", IAE, () -> x.purse(0, -1));
     Check.throwsDue("7 the person first", NSE, () -> x.purse(3, 4));
@@ -219,6 +222,15 @@ public final class PromisesTest {
     fault("\n\n", 2, 2);
     fault("2;", 2, 0);
     fault(";", 2, 0);
+    fault("z;", 2, 0);
+    fault("a;", 2, 0);
+    fault("pint 2;", 2, 0);
+    fault("mins 2;", 2, 0);
+    fault("mint 2;nurse;", 2, 7);
+    fault("mint 2;purge;", 2, 7);
+    fault("mint 2;strange 2 into 2;", 2, 7);
+    fault("mint 2;purse 2 limes 2;", 2, 15);
+    fault("mint 2;change 2 onto 2;", 2, 16);
     fault("mints 2;", 2, 0);
     fault("min 2;", 2, 0);
     fault("mint", 2, 4);
@@ -293,6 +305,7 @@ public final class PromisesTest {
     lines("mint2 3;purse2times3 3;change2into3;", 3);
     lines("mint 002 03;purse 2 times 009;", 2);
     lines("mint 2 3 5 7 11 13 17 97;", 1);
+    lines("mint 2;purse 2 times 1;", 2);
     lines("mint 2;purse 2 times 9;", 2);
     lines("mint 2;purse 2 times 8 2;", 2);
     lines("mint 2 3;purse 2 times 4 3 times 5;", 2);
@@ -349,6 +362,7 @@ public final class PromisesTest {
     Check.due("11 nine fit", y.pay(1, 0, 3), 1);
     Check.due("11 nine", y.purse(0, 0), 9);
     Check.due("11 none of a full one's", y.pay(1, 0, 1), 0);
+    Check.due("10 the first coin counts", Check.of("mint 2;purse 2;purse 2 times 9;").may(0, 1, 2), 3);
   }
 
   private static void changing() {
@@ -440,7 +454,6 @@ public final class PromisesTest {
     }
   }
 
-  /** The draws of seed 1 begin 16838, 5758, 10113, 17515, 31051, 5627, 23010 (of 15 bits) in the usual C. */
   private static void years() {
     PrimeCoins x = Check.of("mint 2 3 5;purse 2 2;purse 3;");
     Check.throwsDue("17 times", IAE, () -> x.year(1, 0));
@@ -451,15 +464,17 @@ public final class PromisesTest {
     Check.throwsDue("17 times first", IAE, () -> none.year(1, 61));
     int[] seeds = {0, 1, 7, -1, 12345, Integer.MIN_VALUE, Integer.MAX_VALUE, 99, 2026};
     for (int seed : seeds) {
-      aYear(seed, 1);
-      aYear(seed, 9);
-      aYear(seed, 60);
+      aYear(seed, 1, 2, 1);
+      aYear(seed, 9, 2, 1);
+      aYear(seed, 60, 2, 1);
+      aYear(seed, 3, 0, 0);
+      aYear(seed, 60, 9, 9);
     }
   }
 
-  private static void aYear(int seed, int times) {
+  private static void aYear(int seed, int times, int twos, int threes) {
     int[] primes = {2, 3, 5};
-    int[][] purses = {{2, 0, 0}, {0, 1, 0}};
+    int[][] purses = {{twos, 0, 0}, {0, threes, 0}};
     long drawn = seed;
     int grown = 0;
     int taxed = 0;
@@ -483,8 +498,8 @@ public final class PromisesTest {
         grown++;
       }
     }
-    PrimeCoins x = Check.of("mint 2 3 5;purse 2 2;purse 3;");
-    String name = "17 year " + seed + " " + times;
+    PrimeCoins x = Check.of("mint 2 3 5;purse" + " 2".repeat(twos) + ";purse" + " 3".repeat(threes) + ";");
+    String name = "17 year " + seed + " " + times + " from " + twos + " " + threes;
     Check.due(name, x.year(seed, times), grown);
     Check.due(name + " taxes", x.count(5), taxed);
     for (int p = 0; p < 2; p++) {
@@ -522,6 +537,9 @@ public final class PromisesTest {
     Check.due("18 the greatest then, the first", y.judge(0, 2), 0);
     Check.row(y, 0, 1, 1103, 1003);
     Check.due("18 none behind one that can't be", y.judge(0, 2), 1);
+    PrimeCoins one = Check.of("mint 2;purse;");
+    one.tray(0, 0, 0);
+    Check.due("18 one alone", one.judge(0, 2), 0);
     PrimeCoins none = new PrimeCoins();
     none.tray(0, 0, 0);
     Check.due("18 nobody", none.judge(0, 2), -1);
@@ -575,6 +593,7 @@ public final class PromisesTest {
     Check.due("22 gap", x.gap(1), 20);
     Check.due("22 one alone", x.gap(2), 0);
     Check.throwsDue("22 the person", NSE, () -> x.gap(3));
+    Check.due("22 the first gap", Check.of("mint 97;purse 97;").gap(0), 96);
     Check.due("22 a gap between", Check.of("mint 2 47;purse 2 47;").gap(0), 47);
     nearest(x);
     halves(x);
@@ -585,7 +604,7 @@ public final class PromisesTest {
 
   private static void nearest(PrimeCoins x) {
     long[][] due = {{10, 8}, {11, 12}, {13, 12}, {5, 4}, {9, 8}, {18, 21}, {35, 28}, {126, 84}, {127, 168},
-        {1, 1}, {0, 1}, {-5, 1}, {Long.MIN_VALUE, 1}, {169, 168}, {Long.MAX_VALUE, 168}, {56, 56}};
+        {1, 1}, {2, 2}, {3, 3}, {4, 4}, {0, 1}, {-5, 1}, {Long.MIN_VALUE, 1}, {169, 168}, {Long.MAX_VALUE, 168}, {56, 56}};
     for (long[] pair : due) {
       Check.due("23 nearest to " + pair[0], x.nearest(0, pair[0]), pair[1]);
     }
@@ -643,6 +662,7 @@ public final class PromisesTest {
   private static void searches() {
     fewest();
     spent();
+    justSpent();
     together();
     gainers();
     growing();
@@ -662,6 +682,9 @@ public final class PromisesTest {
     Check.throwsDue("25 the person first", NSE, () -> x.fewest(3, 11));
     PrimeCoins full = Check.of("mint 2 3;purse 2 times 9;change 2 into 3 3;change 2 2 into 3;");
     Check.due("25 no room at first", full.fewest(0, 9), 2);
+    Check.due("25 more of the first", Check.of("mint 2 3;purse 2;change 2 into 2 2;").fewest(0, 16), 3);
+    PrimeCoins last = Check.of("mint 2 3 5 7 11 13 17 19;purse 19;change 19 into 19 19;");
+    Check.due("25 more of the last", last.fewest(0, 19L * 19 * 19 * 19 * 19), 4);
     Check.due("25 a ring", Check.of("mint 2 3 5;purse 2;change 2 into 3;change 3 into 2;").fewest(0, 5), -1);
   }
 
@@ -676,6 +699,16 @@ public final class PromisesTest {
     Check.due("25 near enough", more.fewest(0, 17), 6);
     Check.throwsDue("25 no price behind", IAE, () -> more.fewest(0, 19));
     Check.due("25 nothing changed", more.worth(0), 512);
+  }
+
+  /** Found by a search: 3,000 PURSES are met behind 69 CHANGES, and the 70th does; 3,001 are met behind 45, too soon. */
+  private static void justSpent() {
+    PrimeCoins x = Check.of("mint 2 3 5 7 11 13;purse 2 times 5 7 13;change 2 into 3;change 3 into 5;"
+        + "change 5 into 7;change 7 13 7 into 11;change 11 into 2 11;change 5 into 13;");
+    Check.due("25 3,000 are not too many", x.fewest(0, 24801854), 70);
+    PrimeCoins y = Check.of("mint 2 3 5 7 11 13;purse 2 times 6 11;change 2 into 3;change 3 into 5 5 7;"
+        + "change 5 into 7;change 7 into 11;change 5 11 into 13;change 13 into 5;");
+    Check.due("25 3,001 are", y.fewest(0, 3L * 343 * 14641 * 13), -1000);
   }
 
   private static void together() {
@@ -707,6 +740,7 @@ public final class PromisesTest {
 
   private static void gainers() {
     Check.due("29 none", Check.of("mint 2;").gainer(), -1);
+    Check.due("29 one alone", Check.of("mint 2 3;change 3 into 2;").gainer(), 0);
     Check.due("29 5 by 4 ahead of 6 by 7", three().gainer(), 0);
     String text = "mint 2 3 5;change 5 into 2 2;change 2 into 3;change 2 2 into 3 3;change 3 into 5;";
     Check.due("29 9 by 4", Check.of(text).gainer(), 2);
@@ -800,6 +834,7 @@ public final class PromisesTest {
     Check.due("35 two", x.stolen(0, 10, 4), 9);
     Check.due("35 one", x.stolen(0, 10, 6), 2);
     Check.due("35 none", x.stolen(0, 10, 5), 0);
+    Check.due("35 no 5 is there, though 168 by 5 is 33", x.stolen(0, 10, 3), 0);
     Check.due("35 all", x.stolen(0, 2, 0), 11);
     Check.due("35 by much", x.stolen(0, 1000000000, 84), 1);
     Check.due("35 of none", x.stolen(2, 2, 1), 0);
@@ -838,6 +873,10 @@ public final class PromisesTest {
     Check.due("36 by coins' numbers", eight.fitting(0, 4, 0), 88529281);
     Check.due("36 the most", eight.fitting(0, 4, -1), 330);
     Check.due("36 the last of all", eight.fitting(0, 4, 329), 83521);
+    PrimeCoins one = Check.of("mint 7;");
+    Check.row(one, 0, 0);
+    Check.due("36 one kind", one.fitting(0, 3, -1), 1);
+    Check.due("36 one kind", one.fitting(0, 3, 0), 343);
     PrimeCoins none = new PrimeCoins();
     Check.row(none, 2, 0);
     Check.due("36 no coins", none.fitting(2, 1, -1), 0);
@@ -946,25 +985,12 @@ public final class PromisesTest {
     Check.throwsDue("39 what", IAE, () -> x.rounds(15, 1, -1));
   }
 
-  /** Some great prime has a tail and ring longer than 2,000. */
+  /** Primes found by a search: x and y meet first at these STEPS. */
   private static void notWithin(PrimeCoins x) {
-    int far = 0;
-    for (int n = 999999001; n < 1000000000 && far < 3; n += 2) {
-      long[] told = java.math.BigInteger.valueOf(n).isProbablePrime(30) ? byRounds(n, 1) : new long[2];
-      if (told[0] == -1) {
-        far++;
-        Check.due("39 not within, factor of " + n, x.rounds(n, 1, 0), -1);
-        Check.due("39 not within, steps of " + n, x.rounds(n, 1, 1), -1);
-      }
-    }
-    Check.due("39 some are not within", far, 3);
-    for (int n = 900000001; n < 1000000000; n += 2) {
-      long[] told = java.math.BigInteger.valueOf(n).isProbablePrime(30) ? byRounds(n, 1) : new long[2];
-      if (told[1] > 1990) {
-        Check.due("39 just within " + n, (long) x.rounds(n, 1, 1), told[1]);
-        return;
-      }
-    }
+    Check.due("39 the last step", x.rounds(999950383, 4, 1), 2000);
+    Check.due("39 the last step's factor", x.rounds(999950383, 4, 0), 999950383);
+    Check.due("39 one step more", x.rounds(999949199, 39, 1), -1);
+    Check.due("39 one step more, the factor", x.rounds(999949199, 39, 0), -1);
   }
 
   private static long[] byRounds(long n, long c) {
@@ -1030,7 +1056,9 @@ public final class PromisesTest {
     for (int[] row : due) {
       Check.due("43 witness of " + row[0], x.witness(row[0]), row[1]);
     }
-    // 61 * 1801 * ..: a number of Carmichael's whose least factor is above 60 has none.
+    // Carmichael's numbers: the least witness is the least factor, 59 there; 61 and more is too far.
+    Check.due("43 the farthest", x.witness(178837201), 59);
+    Check.due("43 61 is too far", x.witness(6189121), -1);
     Check.due("43 none from 2 to 60", x.witness(118901521), -1);
     Check.throwsDue("43 1", IAE, () -> x.witness(1));
     Check.throwsDue("43 below", IAE, () -> x.witness(-9));
