@@ -8,15 +8,25 @@ final class Check {
 
   private static int asked = 0;
   private static int wrong = 0;
+  private static String name = "";
 
   private Check() {
+  }
+
+  /** Ahead of what is told from now on. */
+  static void name(String test) {
+    name = test.isEmpty() ? "" : test + ": ";
+  }
+
+  static int asked() {
+    return asked;
   }
 
   static void due(String what, Object got, Object want) {
     asked++;
     if (!String.valueOf(got).equals(String.valueOf(want))) {
       wrong++;
-      System.out.println(what + " answered " + got + ", due is " + want);
+      System.out.println(name + what + " answered " + got + ", due is " + want);
     }
   }
 
