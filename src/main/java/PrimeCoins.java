@@ -1156,9 +1156,8 @@ public final class PrimeCoins {
     void cutAll(int n) {
       length = Math.max(0, Math.min(n, text.length));
       at = 0;
-      many = 0;
       skipBlanks();
-      for (int i = 0; i < TAPE_MOST && at < length; i++) {
+      for (many = 0; many < TAPE_MOST && at < length; many++) {
         cutOne();
         skipBlanks();
       }
@@ -1177,7 +1176,6 @@ public final class PrimeCoins {
         kinds[many] = signAt(at) == ';' ? SEMICOLON : BAD;
         at++;
       }
-      many++;
     }
 
     private int signAt(int i) {

@@ -198,6 +198,18 @@ final class PriceEdges extends Edge {
         + "change 5 into 7;change 7 into 11;change 5 11 into 13;change 13 into 5;");
   }
 
+  /** What one search met another one doesn't know of. */
+  static void promise25_eachSearchBeginsAnew() {
+    PrimeCoins x = of("mint 2 3 5 7 11;purse 2 times 9;purse 11;change 2 into 3;change 3 into 5;change 5 into 7;");
+    due("far", x.fewest(0, 7L * 7 * 7 * 7 * 7 * 7 * 7 * 7 * 7), 27);
+    due("none", x.fewest(1, 7), NONE);
+    due("none", x.fewest(1, 2), NONE);
+    due("it grows no more", x.grows(1, 6), 11);
+    due("far again", x.fewest(0, 7L * 7 * 7 * 7 * 7 * 7 * 7 * 7 * 7), 27);
+    due("as it was", x.fewest(0, 512), 0);
+    due("nor that", x.fewest(0, 11), NONE);
+  }
+
   /** Behind 69 CHANGES 3,000 are met. */
   static void promise25_threeThousandAreNotTooMany() {
     stays(70, PriceEdges::just3000, x -> x.fewest(0, 24801854));

@@ -41,6 +41,19 @@ final class TrayEdges extends Edge {
     refused(ISE, maker, x -> x.owe(1, 2, 8590));
   }
 
+  static void promise45_theNumberAheadOfTooMuch() {
+    Maker maker = () -> {
+      PrimeCoins x = rich();
+      x.owe(1, 2, 1000000);
+      x.owe(1, 2, 1000);
+      return x;
+    };
+    refused(IAE, maker, x -> x.owe(1, 2, 1000001));
+    refused(IAE, maker, x -> x.owe(1, 2, 0));
+    refused(IAE, maker, x -> x.owe(1, 2, Long.MAX_VALUE));
+    refused(ISE, maker, x -> x.owe(1, 2, 2));
+  }
+
   static void promise45_bothOne() {
     refused(IAE, x -> x.owe(0, 0, 2));
     refused(IAE, x -> x.owe(2, 2, 0));
