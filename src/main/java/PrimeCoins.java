@@ -27,13 +27,13 @@ public final class PrimeCoins {
   private int latestFault = 0;
   private int latestPlace = NONE;
   private final Town now = new Town();
-  /** A town that may be spoilt: a text is read into it, deals are judged on it. */
+  /** A town that may be spoilt: deals are judged on it. */
   private final Town draft = new Town();
   private final Town[] images = new Town[IMAGES];
   private final boolean[] imageMade = new boolean[IMAGES];
   private final Tray[] trays = new Tray[TRAYS];
   private final int[] need = new int[COINS_MOST];
-  private final Reader reader = new Reader(tape, draft);
+  private final Reader reader = new Reader();
   private final PriceRow row = new PriceRow();
   private final Search search = new Search();
   private final Bags bags = new Bags();
@@ -66,14 +66,14 @@ public final class PrimeCoins {
     if (n < 0 || n > taped) {
       throw new IllegalArgumentException("not so many bytes");
     }
-    reader.read(n);
+    reader.read(tape, n);
     taped = 0;
     latestFault = reader.fault;
     latestPlace = reader.place;
     if (latestFault != 0) {
       return -10 - latestFault;
     }
-    now.become(draft);
+    now.become(reader.town);
     return now.lines;
   }
 
@@ -1129,17 +1129,14 @@ public final class PrimeCoins {
     static final int INTO = 9;
     private static final int DIGITS_MOST = 3;
 
-    private final int[] text;
+    /** A copy of the tape's: a row handed to a constructor would leave an object that isn't made yet. */
+    private final int[] text = new int[TAPE_MOST];
     private final int[] kinds = new int[TAPE_MOST + 1];
     private final int[] starts = new int[TAPE_MOST + 1];
     private final int[] values = new int[TAPE_MOST + 1];
     private int many = 0;
     private int length = 0;
     private int at = 0;
-
-    Tokens(int[] text) {
-      this.text = text;
-    }
 
     int kindOf(int i) {
       return i >= 0 && i < many ? kinds[i] : END;
@@ -1153,8 +1150,9 @@ public final class PrimeCoins {
       return i >= 0 && i < many ? values[i] : 0;
     }
 
-    void cutAll(int n) {
-      length = Math.max(0, Math.min(n, text.length));
+    void cutAll(int[] tape, int n) {
+      length = Math.max(0, Math.min(n, Math.min(tape.length, text.length)));
+      System.arraycopy(tape, 0, text, 0, length);
       at = 0;
       skipBlanks();
       for (many = 0; many < TAPE_MOST && at < length; many++) {
@@ -1241,7 +1239,7 @@ public final class PrimeCoins {
     }
   }
 
-  /** Reads a TEXT into a town, TOKEN by TOKEN, up to the first FAULT. */
+  /** Reads a TEXT into a town of its own, TOKEN by TOKEN, up to the first FAULT. */
   private static final class Reader {
     private static final int NO_TOKEN = 1;
     private static final int OUT_OF_PLACE = 2;
@@ -1250,17 +1248,12 @@ public final class PrimeCoins {
 
     int fault = 0;
     int place = NONE;
-    private final Tokens tokens;
-    private final Town town;
+    final Town town = new Town();
+    private final Tokens tokens = new Tokens();
     private int at = 0;
 
-    Reader(int[] text, Town town) {
-      tokens = new Tokens(text);
-      this.town = town;
-    }
-
-    void read(int n) {
-      tokens.cutAll(n);
+    void read(int[] tape, int n) {
+      tokens.cutAll(tape, n);
       at = 0;
       fault = 0;
       place = NONE;

@@ -29,6 +29,7 @@ public final class LanguageTest {
     Check.due("signs 1 to 126", all(whole, "[^\\n\\x20-\\x7e]").toString(), "[]");
     Check.due("12 classes at most", all(code, "\\bclass \\w+").size() <= 12, true);
     Check.due("static state", all(code, "\\bstatic (?!final)[^(=;]*[=;]").toString(), "[]");
+    Check.due("rows and parts handed to a constructor", all(code, "new [A-Z]\\w*\\([a-z]\\w*").toString(), "[]");
     names(code);
     lengths(whole);
     depths(code);
